@@ -24,6 +24,7 @@ public final class PromisesTest {
         messageNumbers();
         count();
         undo();
+        undoOfTheLastMessage();
         digest();
         C.end();
     }
@@ -153,6 +154,7 @@ public final class PromisesTest {
         C.due("4 safeNodes()", 64, () -> x.safeNodes());
         C.due("4 undo()", 3, () -> x.undo());
         C.due("4 isAlive(0)", 0, () -> x.isAlive(0) ? 1 : 0);
+        C.due("4 isAlive(63), its own saved state", 1, () -> x.isAlive(63) ? 1 : 0);
 
         FaultyCube y = new FaultyCube();
         y.send(0, 3);
@@ -277,6 +279,12 @@ public final class PromisesTest {
         C.badArgument("12 dimension 1, k 2", one, () -> one.vectorBit(1, 2));
         FaultyCube whole = cube(6);
         C.due("12 vectorBit(63, 6)", 1, () -> whole.vectorBit(63, 6));
+        // u(2) needs more than 4 of the 6 neighbours, u(3) more than 3.
+        whole.kill(1);
+        C.due("12 vectorBit(0, 2), one dead", 1, () -> whole.vectorBit(0, 2));
+        whole.kill(2);
+        C.due("12 vectorBit(0, 2), two dead", 0, () -> whole.vectorBit(0, 2));
+        C.due("12 vectorBit(0, 3), two dead", 1, () -> whole.vectorBit(0, 3));
     }
 
     // Promise 13
@@ -300,6 +308,18 @@ public final class PromisesTest {
         FaultyCube weak = cube(3, 1, 2, 6, 7);
         C.due("13 level(4), weak", 2, () -> weak.level(4));
         C.due("13 decide(0, 3), weak", FaultyCube.REFUSED, () -> weak.decide(0, 3));
+        // 3 has the level 1; its preferred neighbour 7 has the level 2, just enough for 3.
+        FaultyCube enough = cube(4, 1, 2, 4, 8);
+        C.due("13 level(3), enough", 1, () -> enough.level(3));
+        C.due("13 level(7), enough", 2, () -> enough.level(7));
+        C.due("13 decide(3, 13), enough", FaultyCube.OPTIMAL, () -> enough.decide(3, 13));
+        // The source decides, so there and back may differ.
+        FaultyCube strong = cube(4, 2, 3, 5, 8);
+        C.due("13 decide(0, 11), there", FaultyCube.DETOUR, () -> strong.decide(0, 11));
+        C.due("13 decide(11, 0), back", FaultyCube.OPTIMAL, () -> strong.decide(11, 0));
+        FaultyCube near = cube(4, 3, 5, 6, 8);
+        C.due("13 decide(0, 7), there", FaultyCube.REFUSED, () -> near.decide(0, 7));
+        C.due("13 decide(7, 0), back", FaultyCube.DETOUR, () -> near.decide(7, 0));
     }
 
     // Promises 14 and 15
@@ -464,6 +484,27 @@ public final class PromisesTest {
         C.badArgument("22 state(23), undone", x, () -> x.state(23));
         C.due("22 send again", 23, () -> x.send(3, 3));
         C.due("22 state(23) again", FaultyCube.DELIVERED, () -> x.state(23));
+        x.setDimension(4);
+        C.due("22 send from number 0 again", 0, () -> x.send(5, 6));
+        x.step(2);
+        x.undo();
+        x.undo();
+        x.undo();
+        C.due("22 all 24 messages again", FaultyCube.DELIVERED, () -> x.state(23));
+
+        // A new message has made no moves and no detours, whatever stood there before it.
+        FaultyCube used = cube(3, 1, 2);
+        used.send(0, 3);
+        used.step(2);
+        used.setDimension(3);
+        used.send(0, 3);
+        C.due("22 moves(0), a new message", 0, () -> used.moves(0));
+        FaultyCube fresh = cube(3);
+        fresh.killAll(0);
+        fresh.killAll(0);
+        fresh.killAll(0);
+        fresh.send(0, 3);
+        C.due("22 a new message, the digest", fresh.digest(), used::digest);
     }
 
     // Promise 23
@@ -489,8 +530,17 @@ public final class PromisesTest {
         C.due("23 step(2)", 1, () -> x.step(2));
         C.due("23 count(DELIVERED)", 4, () -> x.count(FaultyCube.DELIVERED));
         C.due("23 undo(), one saved state", 3, () -> x.undo());
+        C.due("23 moves(1), undone once", 1, () -> x.moves(1));
         C.due("23 undo()", 2, () -> x.undo());
         C.due("23 position(1), undone", 0, () -> x.position(1));
+
+        FaultyCube queue = cube(6);
+        for (int i = 0; i < 3; i++) {
+            queue.send(31, 63);
+        }
+        C.due("23 step(1), the way of the highest dimension", 1, () -> queue.step(1));
+        C.due("23 step(20), one after the other", 2, () -> queue.step(20));
+        C.due("23 no moves are left", 0, () -> queue.step(1));
 
         FaultyCube once = new FaultyCube();
         once.killAll(0);
@@ -627,6 +677,25 @@ public final class PromisesTest {
         y.step(1);
         C.due("28 undo() after a new call", 0, () -> y.undo());
         C.due("28 as at first again", start, y::digest);
+    }
+
+    // Promise 28: all of the last message too
+    private static void undoOfTheLastMessage() {
+        FaultyCube x = cube(3, 1, 2);
+        for (int i = 0; i < 23; i++) {
+            x.send(7, 7);
+        }
+        x.send(0, 3);
+        long before = x.digest();
+        x.step(1);
+        x.undo();
+        C.due("28 position(23) after undo()", 0, () -> x.position(23));
+        C.due("28 moves(23) after undo()", 0, () -> x.moves(23));
+        x.kill(3);
+        x.undo();
+        C.due("28 state(23) after undo()", FaultyCube.MOVING, () -> x.state(23));
+        x.killAll(0);
+        C.due("28 the digest after undo()", before, x::digest);
     }
 
     // Promise 29
