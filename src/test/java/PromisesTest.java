@@ -41,23 +41,6 @@ public final class PromisesTest {
         }
     }
 
-    private static FaultyCube cube(int d, int... dead) {
-        FaultyCube x = new FaultyCube();
-        x.setDimension(d);
-        for (int node : dead) {
-            x.kill(node);
-        }
-        return x;
-    }
-
-    private static long fold(long... values) {
-        long h = 12805;
-        for (long v : values) {
-            h = 31 * h + v;
-        }
-        return h;
-    }
-
     // Promise 1
     private static void newObject() {
         FaultyCube x = new FaultyCube();
@@ -72,7 +55,7 @@ public final class PromisesTest {
         }
         C.badArgument("1 state(0)", x, () -> x.state(0));
         C.badState("1 undo()", x, () -> x.undo());
-        long h = fold(0, 4, 0, 0, 16, 960);
+        long h = Cubes.fold(0, 4, 0, 0, 16, 960);
         for (int v = 0; v < 16; v++) {
             h = h * 31 + 4;
             for (int k = 1; k <= 4; k++) {
@@ -136,14 +119,14 @@ public final class PromisesTest {
         C.due("3 undo()", 3, () -> x.undo());
         C.due("3 state(2) again", FaultyCube.MOVING, () -> x.state(2));
         C.due("3 isAlive(2)", 1, () -> x.isAlive(2) ? 1 : 0);
-        FaultyCube big = cube(6);
+        FaultyCube big = Cubes.of(6);
         C.due("3 kill(63)", 0, () -> big.kill(63));
         C.due("3 isAlive(63)", 0, () -> big.isAlive(63) ? 1 : 0);
     }
 
     // Promise 4
     private static void revive() {
-        FaultyCube x = cube(6, 63, 0, 40);
+        FaultyCube x = Cubes.of(6, 63, 0, 40);
         badNodes("4 revive", x, 6, x::revive);
         C.badState("4 revive(1)", x, () -> x.revive(1));
         C.due("4 revive(40)", 2, () -> x.revive(40));
@@ -180,20 +163,20 @@ public final class PromisesTest {
         C.due("5 freeSubcubes(0) again", 15, () -> x.freeSubcubes(0));
         C.due("5 count(LOST) again", 0, () -> x.count(FaultyCube.LOST));
 
-        FaultyCube big = cube(6, 31);
+        FaultyCube big = Cubes.of(6, 31);
         C.due("5 killAll(-1)", 31, () -> big.killAll(-1));
         for (int v = 0; v < 64; v++) {
             int node = v;
             C.due("5 isAlive(" + v + ")", v < 32 ? 0 : 1, () -> big.isAlive(node) ? 1 : 0);
         }
-        FaultyCube top = cube(5);
+        FaultyCube top = Cubes.of(5);
         C.due("5 killAll(1 << 31)", 1, () -> top.killAll(1 << 31));
         C.due("5 isAlive(31)", 0, () -> top.isAlive(31) ? 1 : 0);
     }
 
     // Promises 6 and 7
     private static void isAliveAndDistance() {
-        FaultyCube x = cube(5, 17);
+        FaultyCube x = Cubes.of(5, 17);
         badNodes("6 isAlive", x, 5, v -> x.isAlive(v) ? 1 : 0);
         C.due("6 isAlive(17)", 0, () -> x.isAlive(17) ? 1 : 0);
         C.due("6 isAlive(16)", 1, () -> x.isAlive(16) ? 1 : 0);
@@ -202,13 +185,13 @@ public final class PromisesTest {
         C.due("7 distance(17, 14), one dead", 5, () -> x.distance(17, 14));
         C.due("7 distance(17, 17)", 0, () -> x.distance(17, 17));
         C.due("7 distance(3, 6)", 2, () -> x.distance(3, 6));
-        FaultyCube big = cube(6);
+        FaultyCube big = Cubes.of(6);
         C.due("7 distance(0, 63)", 6, () -> big.distance(0, 63));
     }
 
     // Promise 8
     private static void shortest() {
-        FaultyCube x = cube(3, 1, 2);
+        FaultyCube x = Cubes.of(3, 1, 2);
         badNodes("8 shortest from", x, 3, v -> x.shortest(v, 0));
         badNodes("8 shortest to", x, 3, v -> x.shortest(0, v));
         badNodes("8 shortest from, to dead", x, 3, v -> x.shortest(v, 1));
@@ -222,20 +205,20 @@ public final class PromisesTest {
         C.due("8 shortest(0, 3), cut off", FaultyCube.NONE, () -> x.shortest(0, 3));
         C.due("8 shortest(0, 0), cut off", 0, () -> x.shortest(0, 0));
         // 0, 1, 3, 7, 6, 14, 12, 13 are alive, each beside the next and no other.
-        FaultyCube snake = cube(4, 2, 4, 5, 8, 9, 10, 11, 15);
+        FaultyCube snake = Cubes.of(4, 2, 4, 5, 8, 9, 10, 11, 15);
         C.due("8 shortest(0, 13), a snake", 7, () -> snake.shortest(0, 13));
-        FaultyCube two = cube(2, 1);
+        FaultyCube two = Cubes.of(2, 1);
         C.due("8 shortest(0, 3) around", 2, () -> two.shortest(0, 3));
     }
 
     // Promises 9, 10, 11
     private static void levels() {
-        FaultyCube whole = cube(6);
+        FaultyCube whole = Cubes.of(6);
         C.due("9 level(0)", 6, () -> whole.level(0));
         C.due("10 rounds()", 0, () -> whole.rounds());
         C.due("11 safeNodes()", 64, () -> whole.safeNodes());
 
-        FaultyCube x = cube(3, 1, 2, 4);
+        FaultyCube x = Cubes.of(3, 1, 2, 4);
         badNodes("9 level", x, 3, x::level);
         int[] want = {1, 0, 0, 1, 0, 1, 1, 2};
         for (int v = 0; v < 8; v++) {
@@ -245,7 +228,7 @@ public final class PromisesTest {
         C.due("10 rounds(), two", 2, () -> x.rounds());
         C.due("11 safeNodes(), none", 0, () -> x.safeNodes());
 
-        FaultyCube one = cube(1, 1);
+        FaultyCube one = Cubes.of(1, 1);
         C.due("9 level(0), dimension 1", 1, () -> one.level(0));
         C.due("9 level(1), dimension 1", 0, () -> one.level(1));
         C.due("10 rounds(), dimension 1", 0, () -> one.rounds());
@@ -257,7 +240,7 @@ public final class PromisesTest {
 
     // Promise 12
     private static void vectors() {
-        FaultyCube x = cube(3, 1, 2, 4);
+        FaultyCube x = Cubes.of(3, 1, 2, 4);
         badNodes("12 vectorBit", x, 3, v -> x.vectorBit(v, 1));
         for (int k : new int[] {0, -1, 4, Integer.MIN_VALUE, Integer.MAX_VALUE}) {
             C.badArgument("12 vectorBit(0, " + k + ")", x, () -> x.vectorBit(0, k));
@@ -273,11 +256,11 @@ public final class PromisesTest {
                         () -> x.vectorBit(node, bit));
             }
         }
-        FaultyCube one = cube(1, 0);
+        FaultyCube one = Cubes.of(1, 0);
         C.due("12 dimension 1, alive", 1, () -> one.vectorBit(1, 1));
         C.due("12 dimension 1, dead", 0, () -> one.vectorBit(0, 1));
         C.badArgument("12 dimension 1, k 2", one, () -> one.vectorBit(1, 2));
-        FaultyCube whole = cube(6);
+        FaultyCube whole = Cubes.of(6);
         C.due("12 vectorBit(63, 6)", 1, () -> whole.vectorBit(63, 6));
         // u(2) needs more than 4 of the 6 neighbours, u(3) more than 3.
         whole.kill(1);
@@ -289,7 +272,7 @@ public final class PromisesTest {
 
     // Promise 13
     private static void decisions() {
-        FaultyCube x = cube(3, 1, 2);
+        FaultyCube x = Cubes.of(3, 1, 2);
         badNodes("13 decide from", x, 3, v -> x.decide(v, 0));
         badNodes("13 decide to", x, 3, v -> x.decide(0, v));
         badNodes("13 decide from dead to", x, 3, v -> x.decide(1, v));
@@ -302,29 +285,29 @@ public final class PromisesTest {
         x.kill(4);
         C.due("13 decide(0, 3), alone", FaultyCube.REFUSED, () -> x.decide(0, 3));
         C.due("13 decide(0, 0), alone", FaultyCube.OPTIMAL, () -> x.decide(0, 0));
-        FaultyCube two = cube(2, 1, 2);
+        FaultyCube two = Cubes.of(2, 1, 2);
         C.due("13 decide(0, 3), nothing spare", FaultyCube.REFUSED, () -> two.decide(0, 3));
         // The spare neighbour 4 of 0 has the level 2, and 3 would be wanted.
-        FaultyCube weak = cube(3, 1, 2, 6, 7);
+        FaultyCube weak = Cubes.of(3, 1, 2, 6, 7);
         C.due("13 level(4), weak", 2, () -> weak.level(4));
         C.due("13 decide(0, 3), weak", FaultyCube.REFUSED, () -> weak.decide(0, 3));
         // 3 has the level 1; its preferred neighbour 7 has the level 2, just enough for 3.
-        FaultyCube enough = cube(4, 1, 2, 4, 8);
+        FaultyCube enough = Cubes.of(4, 1, 2, 4, 8);
         C.due("13 level(3), enough", 1, () -> enough.level(3));
         C.due("13 level(7), enough", 2, () -> enough.level(7));
         C.due("13 decide(3, 13), enough", FaultyCube.OPTIMAL, () -> enough.decide(3, 13));
         // The source decides, so there and back may differ.
-        FaultyCube strong = cube(4, 2, 3, 5, 8);
+        FaultyCube strong = Cubes.of(4, 2, 3, 5, 8);
         C.due("13 decide(0, 11), there", FaultyCube.DETOUR, () -> strong.decide(0, 11));
         C.due("13 decide(11, 0), back", FaultyCube.OPTIMAL, () -> strong.decide(11, 0));
-        FaultyCube near = cube(4, 3, 5, 6, 8);
+        FaultyCube near = Cubes.of(4, 3, 5, 6, 8);
         C.due("13 decide(0, 7), there", FaultyCube.REFUSED, () -> near.decide(0, 7));
         C.due("13 decide(7, 0), back", FaultyCube.DETOUR, () -> near.decide(7, 0));
     }
 
     // Promises 14 and 15
     private static void routes() {
-        FaultyCube x = cube(3, 1, 2);
+        FaultyCube x = Cubes.of(3, 1, 2);
         badNodes("14 routeLength from", x, 3, v -> x.routeLength(v, 0));
         badNodes("14 routeLength to", x, 3, v -> x.routeLength(1, v));
         C.badState("14 routeLength(1, 0)", x, () -> x.routeLength(1, 0));
@@ -349,9 +332,9 @@ public final class PromisesTest {
         C.due("14 routeLength, refused", FaultyCube.NONE, () -> x.routeLength(0, 3));
         dueRoute(x, 0, 3);
         // 1 has the level 1, so the lowest of the greatest levels is that of 2.
-        dueRoute(cube(4, 5, 9), 0, 15, 0, 2, 3, 7, 15);
+        dueRoute(Cubes.of(4, 5, 9), 0, 15, 0, 2, 3, 7, 15);
         // 4 has the level 1, so the detour goes by 8, the greater spare neighbour.
-        dueRoute(cube(4, 1, 2, 5, 6), 0, 3, 0, 8, 9, 11, 3);
+        dueRoute(Cubes.of(4, 1, 2, 5, 6), 0, 3, 0, 8, 9, 11, 3);
     }
 
     private static void dueRoute(FaultyCube x, int from, int to, int... nodes) {
@@ -365,7 +348,7 @@ public final class PromisesTest {
 
     // Promise 16
     private static void reach() {
-        FaultyCube x = cube(3, 1, 2);
+        FaultyCube x = Cubes.of(3, 1, 2);
         badNodes("16 reach", x, 3, v -> x.reach(v, 0));
         for (int bad : new int[] {-1, 3, Integer.MIN_VALUE, Integer.MAX_VALUE}) {
             C.badArgument("16 reach(0, " + bad + ")", x, () -> x.reach(0, bad));
@@ -378,13 +361,13 @@ public final class PromisesTest {
         x.kill(4);
         C.due("16 reach(0, OPTIMAL), alone", 0, () -> x.reach(0, FaultyCube.OPTIMAL));
         C.due("16 reach(0, REFUSED), alone", 4, () -> x.reach(0, FaultyCube.REFUSED));
-        FaultyCube big = cube(6);
+        FaultyCube big = Cubes.of(6);
         C.due("16 reach(63, OPTIMAL)", 63, () -> big.reach(63, FaultyCube.OPTIMAL));
     }
 
     // Promises 17 and 18
     private static void broadcasts() {
-        FaultyCube x = cube(3, 1, 2);
+        FaultyCube x = Cubes.of(3, 1, 2);
         badNodes("17 broadcastTime from", x, 3, v -> x.broadcastTime(v, 0));
         badNodes("17 broadcastTime to", x, 3, v -> x.broadcastTime(1, v));
         badNodes("18 broadcastSize", x, 3, x::broadcastSize);
@@ -401,7 +384,7 @@ public final class PromisesTest {
         x.kill(4);
         C.due("18 broadcastSize(0), alone", 1, () -> x.broadcastSize(0));
         C.due("17 broadcastTime(0, 0), alone", 0, () -> x.broadcastTime(0, 0));
-        FaultyCube big = cube(6);
+        FaultyCube big = Cubes.of(6);
         C.due("18 broadcastSize(5), whole", 64, () -> big.broadcastSize(5));
         C.due("17 broadcastTime(0, 63), whole", 6, () -> big.broadcastTime(0, 63));
     }
@@ -421,13 +404,13 @@ public final class PromisesTest {
         x.kill(8);
         dueSubcubes(x, 14, 25, 15, 3, 0);
         C.due("20 the least mask with a base", 64 * 11 + 4, () -> x.largestSubcube());
-        FaultyCube points = cube(2, 0, 3);
+        FaultyCube points = Cubes.of(2, 0, 3);
         dueSubcubes(points, 2, 0, 0);
         C.due("20 the least base", 1, () -> points.largestSubcube());
         points.killAll(-1);
         dueSubcubes(points, 0, 0, 0);
         C.due("20 all dead", FaultyCube.NONE, () -> points.largestSubcube());
-        FaultyCube big = cube(6);
+        FaultyCube big = Cubes.of(6);
         dueSubcubes(big, 64, 192, 240, 160, 60, 12, 1);
         C.due("20 largestSubcube(), 6", 64 * 63, () -> big.largestSubcube());
     }
@@ -442,12 +425,12 @@ public final class PromisesTest {
     // Promise 21
     private static void disjointPaths() {
         for (int d = 1; d <= 6; d++) {
-            FaultyCube x = cube(d);
+            FaultyCube x = Cubes.of(d);
             int last = (1 << d) - 1;
             C.due("21 opposite, " + d, d, () -> x.disjointPaths(0, last));
             C.due("21 beside, " + d, d, () -> x.disjointPaths(last, last - 1));
         }
-        FaultyCube x = cube(3, 1, 2);
+        FaultyCube x = Cubes.of(3, 1, 2);
         badNodes("21 disjointPaths from", x, 3, v -> x.disjointPaths(v, 1));
         badNodes("21 disjointPaths to", x, 3, v -> x.disjointPaths(0, v));
         C.badArgument("21 the same", x, () -> x.disjointPaths(0, 0));
@@ -493,13 +476,13 @@ public final class PromisesTest {
         C.due("22 all 24 messages again", FaultyCube.DELIVERED, () -> x.state(23));
 
         // A new message has made no moves and no detours, whatever stood there before it.
-        FaultyCube used = cube(3, 1, 2);
+        FaultyCube used = Cubes.of(3, 1, 2);
         used.send(0, 3);
         used.step(2);
         used.setDimension(3);
         used.send(0, 3);
         C.due("22 moves(0), a new message", 0, () -> used.moves(0));
-        FaultyCube fresh = cube(3);
+        FaultyCube fresh = Cubes.of(3);
         fresh.killAll(0);
         fresh.killAll(0);
         fresh.killAll(0);
@@ -534,7 +517,7 @@ public final class PromisesTest {
         C.due("23 undo()", 2, () -> x.undo());
         C.due("23 position(1), undone", 0, () -> x.position(1));
 
-        FaultyCube queue = cube(6);
+        FaultyCube queue = Cubes.of(6);
         for (int i = 0; i < 3; i++) {
             queue.send(31, 63);
         }
@@ -553,7 +536,7 @@ public final class PromisesTest {
 
     // Promise 23: what a message chooses
     private static void detours() {
-        FaultyCube around = cube(3, 1, 2);
+        FaultyCube around = Cubes.of(3, 1, 2);
         around.send(0, 3);
         for (int node : new int[] {4, 5, 7, 3}) {
             C.due("23 detour: step(1)", 1, () -> around.step(1));
@@ -563,7 +546,7 @@ public final class PromisesTest {
         C.due("23 detour: state(0)", FaultyCube.DELIVERED, () -> around.state(0));
 
         // The goal cannot be had: to and fro until both detours are made.
-        FaultyCube walled = cube(3, 3, 5, 6);
+        FaultyCube walled = Cubes.of(3, 3, 5, 6);
         walled.send(0, 7);
         int[] nodes = {1, 0, 1, 0, 1, 1, 1};
         for (int i = 0; i < nodes.length; i++) {
@@ -579,17 +562,17 @@ public final class PromisesTest {
         C.due("23 walled: state(0), freed", FaultyCube.DELIVERED, () -> walled.state(0));
 
         // No neighbour is alive at all, and no dimension is spare.
-        FaultyCube alone = cube(2, 1, 2);
+        FaultyCube alone = Cubes.of(2, 1, 2);
         alone.send(0, 3);
         C.due("23 alone: step(20)", 0, () -> alone.step(20));
         C.due("23 alone: position(0)", 0, () -> alone.position(0));
         C.due("23 alone: state(0)", FaultyCube.MOVING, () -> alone.state(0));
 
-        FaultyCube better = cube(4, 5, 9);
+        FaultyCube better = Cubes.of(4, 5, 9);
         better.send(0, 3);
         better.step(1);
         C.due("23 the greatest level, not the lowest", 2, () -> better.position(0));
-        FaultyCube spare = cube(4, 1, 2, 5, 6);
+        FaultyCube spare = Cubes.of(4, 1, 2, 5, 6);
         spare.send(0, 3);
         spare.step(1);
         C.due("23 the greatest spare level", 8, () -> spare.position(0));
@@ -681,7 +664,7 @@ public final class PromisesTest {
 
     // Promise 28: all of the last message too
     private static void undoOfTheLastMessage() {
-        FaultyCube x = cube(3, 1, 2);
+        FaultyCube x = Cubes.of(3, 1, 2);
         for (int i = 0; i < 23; i++) {
             x.send(7, 7);
         }
@@ -700,25 +683,25 @@ public final class PromisesTest {
 
     // Promise 29
     private static void digest() {
-        FaultyCube x = cube(1, 1);
+        FaultyCube x = Cubes.of(1, 1);
         x.send(0, 0);
         x.step(7);
-        long h = fold(4, 1, 7, 0, 1, 0, 1, 1, 0, 0, 1, 1, 0, 0, 0, 0);
+        long h = Cubes.fold(4, 1, 7, 0, 1, 0, 1, 1, 0, 0, 1, 1, 0, 0, 0, 0);
         C.due("29 dimension 1", h, x::digest);
 
-        FaultyCube y = cube(2, 1);
+        FaultyCube y = Cubes.of(2, 1);
         y.send(0, 3);
         y.step(1);
         y.kill(0);
         y.revive(0);
         // 0 and 3 have one dead neighbour each, so the level 2; the largest is 2 with 3.
-        h = fold(4, 2, 1, 0, 3, 66, 2, 1, 1, 0, 0, 0, 2, 1, 1, 2, 1, 1, 1, 0, 2, 3, 1, 0);
+        h = Cubes.fold(4, 2, 1, 0, 3, 66, 2, 1, 1, 0, 0, 0, 2, 1, 1, 2, 1, 1, 1, 0, 2, 3, 1, 0);
         C.due("29 dimension 2", h, y::digest);
 
-        FaultyCube z = cube(3, 1, 2);
+        FaultyCube z = Cubes.of(3, 1, 2);
         z.send(0, 3);
         z.step(2);
-        h = fold(4, 3, 2, 1, 4, 196,
+        h = Cubes.fold(4, 3, 2, 1, 4, 196,
                 1, 1, 0, 1, 0, 0, 0, 0, 0, 0, 0, 0, 1, 1, 0, 1,
                 3, 1, 1, 1, 3, 1, 1, 1, 3, 1, 1, 1, 3, 1, 1, 1,
                 1, 0, 5, 3, 2, 1);
